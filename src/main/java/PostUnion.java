@@ -37,6 +37,7 @@ public final class PostUnion {
     private final int[] sorts = new int[TRAYS];
     private final int[] sizes = new int[TRAYS];
     private final Lands lands = new Lands();
+    private final Reader reader = new Reader();
     private final Treaties treaties = new Treaties();
     private final Mail mail = new Mail();
     private final Ways ways = new Ways(lands, treaties);
@@ -160,36 +161,37 @@ public final class PostUnion {
     // ---- TREATIES
 
     public int feed(int a, int b, int c, int d, int e) {
-        if (!treaties.hasRoomOnTape()) {
+        if (!reader.hasRoom()) {
             return NONE;
         }
-        treaties.addToTape(a);
-        treaties.addToTape(b);
-        treaties.addToTape(c);
-        treaties.addToTape(d);
-        treaties.addToTape(e);
-        return treaties.tapeLength();
+        reader.addToTape(a);
+        reader.addToTape(b);
+        reader.addToTape(c);
+        reader.addToTape(d);
+        reader.addToTape(e);
+        return reader.tapeLength();
     }
 
     public int treaty(int n, int year) {
-        if (outside(n, 0, treaties.tapeLength()) || outside(year, 0, LAST_YEAR)) {
+        if (outside(n, 0, reader.tapeLength()) || outside(year, 0, LAST_YEAR)) {
             return refuse(IMPOSSIBLE);
         }
-        if (treaties.isFull()) {
+        Treaty fresh = treaties.nextFree();
+        if (fresh == null) {
             return refuse(TOO_MANY);
         }
-        if (!treaties.add(n, year)) {
+        if (!reader.understands(n, fresh)) {
             return refuse(FAULTY);
         }
         status = 0;
-        return treaties.count() - 1;
+        return treaties.add(year);
     }
 
     public int fault(int what) {
         if (what == 0) {
-            return treaties.faultKind();
+            return reader.faultKind();
         }
-        return what == 1 ? treaties.faultPlace() : NONE;
+        return what == 1 ? reader.faultPlace() : NONE;
     }
 
     public int clauses(int treaty) {
@@ -1010,15 +1012,13 @@ public final class PostUnion {
                     && (tos[clause] == 0 || (tos[clause] >> to & 1) != 0);
         }
 
-        boolean holds(int clause, Mail mail) {
-            return tests[clause] == sums[clause] || compute(tests[clause], sums[clause], mail) != 0;
-        }
-
-        long sumOf(int clause, Mail mail) {
-            return compute(sums[clause], ends[clause], mail);
-        }
-
-        private long compute(int start, int end, Mail mail) {
+        /** The TEST of a CLAUSE (0 if it doesn't hold), or its SUM. */
+        long compute(int clause, boolean test, Mail mail) {
+            int start = test ? tests[clause] : sums[clause];
+            int end = test ? sums[clause] : ends[clause];
+            if (start == end) {
+                return 1;
+            }
             int high = 0;
             for (int at = start; at < end && at < MOST_CODE; at++) {
                 int kind = -1 - code[at];
@@ -1069,12 +1069,11 @@ public final class PostUnion {
         }
     }
 
-    /** Reads the text of a TREATY, TOKEN by TOKEN, up to its first FAULT. */
+    /** The tape, and how the text of a TREATY is read from it: all TOKENS, then the CLAUSES. */
     private static final class Reader {
         /** Columns of six signs: the kind of a known word is the number of its column. */
         private static final String WORDS =
-                "due   third from  to    when  gives or    and   not   least most  "
-                + "weightpiecessize  heap  year  thirdsvia   ";
+                "due   third from  to    when  gives or    and   not   least most  weightpiecessize  heap  year  thirdsvia   ";
         private static final int COLUMN = 6;
         private static final int DUE = 0;
         private static final int THIRD = 1;
@@ -1099,34 +1098,41 @@ public final class PostUnion {
         /** What is put to LEAST or MOST while the bracket waits for its comma. */
         private static final int FIRST_OF = 100;
 
+        private static final int MOST_TAPE = 600;
         private static final int MOST_LETTERS = 8;
         private static final int MOST_DIGITS = 7;
         private static final int MOST_DEPTH = 10;
         /** At most 3 signs wait at each of 11 depths, and 4 more: or, and, not, and what compares. */
         private static final int MOST_PENDING = 48;
 
-        private static final int LEFT = 0;
-        private static final int RIGHT = 1;
-        private static final int WHOLE = 2;
+        /** Where a formula is: at the first of a ONE, ahead of or behind its COMPARES, in a SUM. */
+        private static final int FIRST = 0;
+        private static final int LEFT = 1;
+        private static final int RIGHT = 2;
+        private static final int WHOLE = 3;
+        private static final int OVER = 4;
 
-        private byte[] text;
+        private final byte[] tape = new byte[MOST_TAPE];
+        private int tapeLength;
+        /** How much of the tape is the text, and how far its TOKENS have been told apart. */
         private int length;
         private int next;
+        private final int[] kinds = new int[MOST_TAPE + 1];
+        private final int[] places = new int[MOST_TAPE + 1];
+        private final long[] values = new long[MOST_TAPE + 1];
+        private int tokens;
+        /** The TOKEN at which the reading is, and its kind. */
+        private int current;
         private int kind;
-        private int place;
-        private long value;
-        private int fault;
-        private int faultPlace;
+        private int faultKind = NONE;
+        private int faultPlace = NONE;
         private Treaty treaty;
         private final long[] names = new long[Treaty.MOST_CLAUSES];
         private final int[] pending = new int[MOST_PENDING];
         private int pendings;
         private int depth;
-        /** Where in a TEST it is: LEFT or RIGHT of what compares; or in the WHOLE of a SUM. */
-        private int side;
-        private boolean mayNegate;
+        private int part;
         private boolean wantsAtom;
-        private boolean ended;
 
         private Reader() {
         }
@@ -1135,32 +1141,127 @@ public final class PostUnion {
             return kind >= WEIGHT && kind <= VIA;
         }
 
-        int fault() {
-            return fault;
+        int faultKind() {
+            return faultKind;
         }
 
         int faultPlace() {
             return faultPlace;
         }
 
+        int tapeLength() {
+            return tapeLength;
+        }
+
+        boolean hasRoom() {
+            return tapeLength <= MOST_TAPE - 20;
+        }
+
+        void addToTape(int four) {
+            for (int shift = 24; shift >= 0 && tapeLength < MOST_TAPE; shift -= 8) {
+                tape[tapeLength] = (byte) (four >> shift);
+                tapeLength++;
+            }
+        }
+
         /** Whether the text has no FAULT; if it has one, the code of the TREATY is of no use. */
-        boolean understands(byte[] tape, int n, Treaty into) {
-            text = tape;
-            length = Math.min(n, tape.length);
+        boolean understands(int n, Treaty into) {
+            length = Math.min(n, MOST_TAPE);
+            tapeLength = 0;
             treaty = into;
             treaty.clear();
-            next = 0;
-            fault = 0;
+            faultKind = 0;
             faultPlace = NONE;
-            advance();
-            for (int k = 0; k <= Treaty.MOST_CLAUSES && fault == 0 && kind != END; k++) {
-                clause();
+            tellTokens();
+            current = 0;
+            kind = kinds[0];
+            for (int k = 0; k <= Treaty.MOST_CLAUSES && faultKind == 0 && kind != END; k++) {
+                takeClause();
             }
-            return fault == 0;
+            return faultKind == 0;
+        }
+
+        /** Up to the first that is no TOKEN: nothing behind it can be reached. */
+        private void tellTokens() {
+            next = 0;
+            tokens = 0;
+            boolean more = true;
+            for (int k = 0; k <= MOST_TAPE && more; k++) {
+                while (next < length && (tape[next] == ' ' || tape[next] == '\n')) {
+                    next++;
+                }
+                places[k] = next;
+                kinds[k] = tellToken(k);
+                more = kinds[k] != END && kinds[k] != NO_TOKEN;
+                tokens++;
+            }
+        }
+
+        private int tellToken(int k) {
+            if (next >= length) {
+                return END;
+            }
+            int sign = tape[next];
+            if (isLetter(sign)) {
+                return tellWord(k);
+            }
+            if (isDigit(sign)) {
+                return tellNumber(k);
+            }
+            next++;
+            return SIGNS.indexOf((char) (sign & 255)) >= 0 ? sign : NO_TOKEN;
+        }
+
+        private static boolean isLetter(int sign) {
+            return sign >= 'a' && sign <= 'z';
+        }
+
+        private static boolean isDigit(int sign) {
+            return sign >= '0' && sign <= '9';
+        }
+
+        /** The value of a word that may be a NAME tells it from all others. */
+        private int tellWord(int k) {
+            int start = next;
+            long value = 0;
+            while (next < length && isLetter(tape[next])) {
+                value = next - start < MOST_LETTERS ? value * 27 + (tape[next] - 'a' + 1) : value;
+                next++;
+            }
+            values[k] = value;
+            return next - start > MOST_LETTERS ? LONG_WORD : wordKind(start);
+        }
+
+        private int wordKind(int start) {
+            if (next - start > COLUMN) {
+                return NAME;
+            }
+            for (int column = 0; column <= VIA; column++) {
+                int alike = 0;
+                for (int k = 0; k < COLUMN; k++) {
+                    int letter = start + k < next ? tape[start + k] : ' ';
+                    alike += WORDS.charAt(column * COLUMN + k) == letter ? 1 : 0;
+                }
+                if (alike == COLUMN) {
+                    return column;
+                }
+            }
+            return NAME;
+        }
+
+        private int tellNumber(int k) {
+            int start = next;
+            long value = 0;
+            while (next < length && isDigit(tape[next])) {
+                value = value * 10 + (tape[next] - '0');
+                next++;
+            }
+            values[k] = value;
+            return next - start > MOST_DIGITS ? NO_TOKEN : NUMBER;
         }
 
         /** Behind a FAULT nothing more is taken, so each step can follow the one ahead of it. */
-        private void clause() {
+        private void takeClause() {
             takeName();
             need(':');
             boolean third = take(THIRD);
@@ -1171,13 +1272,13 @@ public final class PostUnion {
             int to = take(TO) ? takeList() : 0;
             int test = treaty.length();
             if (take(WHEN)) {
-                takeFormula(LEFT);
+                takeFormula(FIRST);
             }
             int sum = treaty.length();
             need(GIVES);
             takeFormula(WHOLE);
             need(';');
-            if (fault == 0) {
+            if (faultKind == 0) {
                 treaty.addClause(third, from, to, test, sum);
             }
         }
@@ -1191,14 +1292,14 @@ public final class PostUnion {
             } else if (isNamed(known)) {
                 blame(4);
             } else {
-                names[known] = value;
-                advance();
+                names[known] = values[current];
+                step();
             }
         }
 
         private boolean isNamed(int known) {
             for (int k = 0; k < known; k++) {
-                if (names[k] == value) {
+                if (names[k] == values[current]) {
                     return true;
                 }
             }
@@ -1210,13 +1311,14 @@ public final class PostUnion {
             int told = 0;
             boolean more = true;
             for (int k = 0; k <= Lands.MOST && more; k++) {
+                long land = values[current];
                 if (kind != NUMBER) {
                     blame(2);
-                } else if (value >= Lands.MOST || (told >> (int) value & 1) != 0) {
+                } else if (land >= Lands.MOST || (told >> (int) land & 1) != 0) {
                     blame(5);
                 } else {
-                    told |= 1 << (int) value;
-                    advance();
+                    told |= 1 << (int) land;
+                    step();
                 }
                 more = take(',');
             }
@@ -1227,11 +1329,9 @@ public final class PostUnion {
         private void takeFormula(int begins) {
             pendings = 0;
             depth = 0;
-            side = begins;
-            mayNegate = begins == LEFT;
+            part = begins;
             wantsAtom = true;
-            ended = false;
-            for (int k = 0; k <= length && fault == 0 && !ended; k++) {
+            for (int k = 0; k < tokens && faultKind == 0 && part != OVER; k++) {
                 if (wantsAtom) {
                     takeAtom();
                 } else {
@@ -1241,61 +1341,63 @@ public final class PostUnion {
         }
 
         private void takeAtom() {
-            boolean first = mayNegate;
-            mayNegate = false;
-            if (take(LEAST)) {
-                openBracket(FIRST_OF + LEAST);
-            } else if (take(MOST)) {
-                openBracket(FIRST_OF + MOST);
-            } else if (kind == '(') {
-                openBracket('(');
-            } else if (first && take(NOT)) {
-                hold(NOT);
-            } else if (kind == NUMBER || isVariable(kind)) {
-                treaty.emit(kind == NUMBER ? (int) value : -1 - kind);
+            boolean isFirst = part == FIRST;
+            part = isFirst ? LEFT : part;
+            if (kind == NUMBER || isVariable(kind)) {
+                treaty.emit(kind == NUMBER ? (int) values[current] : -1 - kind);
                 wantsAtom = false;
-                advance();
+                step();
+            } else if (kind == '(') {
+                openBracket(kind);
+            } else if (kind == LEAST || kind == MOST) {
+                int mark = FIRST_OF + kind;
+                step();
+                openBracket(mark);
+            } else if (isFirst && kind == NOT) {
+                hold(kind);
+                step();
             } else {
                 blame(2);
             }
         }
 
         private void openBracket(int mark) {
-            if (kind == '(' && depth >= MOST_DEPTH) {
+            if (kind != '(') {
+                blame(2);
+            } else if (depth >= MOST_DEPTH) {
                 blame(6);
+            } else {
+                depth++;
+                hold(mark);
+                step();
             }
-            need('(');
-            depth++;
-            hold(mark);
         }
 
         /** What can stand behind an ATOM. */
         private void takeJoint() {
             int binding = bindingOf(kind);
             if (binding >= 5) {
-                joinBy(binding);
+                joinBy(binding, part);
             } else if (depth > 0) {
                 takeInBracket();
-            } else if (side == LEFT && binding == 4) {
-                side = RIGHT;
-                joinBy(binding);
-            } else if (side == RIGHT && (kind == AND || kind == OR)) {
-                side = LEFT;
-                mayNegate = true;
-                joinBy(binding);
-            } else if (side == RIGHT && kind == GIVES || side == WHOLE && kind == ';') {
+            } else if (part == LEFT && binding == 4) {
+                joinBy(binding, RIGHT);
+            } else if (part == RIGHT && (kind == AND || kind == OR)) {
+                joinBy(binding, FIRST);
+            } else if (part == RIGHT && kind == GIVES || part == WHOLE && kind == ';') {
                 unwind(1);
-                ended = true;
+                part = OVER;
             } else {
                 blame(2);
             }
         }
 
-        private void joinBy(int binding) {
+        private void joinBy(int binding, int partBehind) {
             unwind(binding);
             hold(kind);
+            part = partBehind;
             wantsAtom = true;
-            advance();
+            step();
         }
 
         /** A comma or a bracket that closes, whichever the innermost bracket waits for. */
@@ -1317,7 +1419,7 @@ public final class PostUnion {
                     treaty.emit(-1 - mark);
                 }
             }
-            advance();
+            step();
         }
 
         /** How tightly a sign binds; brackets, which only their own end takes away, do not bind. */
@@ -1360,10 +1462,10 @@ public final class PostUnion {
         }
 
         private boolean take(int wanted) {
-            if (fault != 0 || kind != wanted) {
+            if (faultKind != 0 || kind != wanted) {
                 return false;
             }
-            advance();
+            step();
             return true;
         }
 
@@ -1373,92 +1475,30 @@ public final class PostUnion {
             }
         }
 
+        private void step() {
+            if (current < tokens - 1) {
+                current++;
+                kind = kinds[current];
+            }
+        }
+
         /** Only the first FAULT counts; of one TOKEN, that it is none comes ahead of all others. */
         private void blame(int what) {
-            if (fault == 0) {
-                fault = kind == NO_TOKEN ? 1 : what;
-                faultPlace = place;
+            if (faultKind == 0) {
+                faultKind = kind == NO_TOKEN ? 1 : what;
+                faultPlace = places[current];
             }
-        }
-
-        private void advance() {
-            while (next < length && (text[next] == ' ' || text[next] == '\n')) {
-                next++;
-            }
-            place = next;
-            if (next >= length) {
-                kind = END;
-            } else if (isLetter(next)) {
-                readWord();
-            } else if (isDigit(next)) {
-                readNumber();
-            } else {
-                kind = SIGNS.indexOf((char) text[next]) >= 0 ? text[next] : NO_TOKEN;
-                next++;
-            }
-        }
-
-        private boolean isLetter(int at) {
-            return at < length && text[at] >= 'a' && text[at] <= 'z';
-        }
-
-        private boolean isDigit(int at) {
-            return at < length && text[at] >= '0' && text[at] <= '9';
-        }
-
-        /** The value of a word that may be a NAME tells it from all others. */
-        private void readWord() {
-            value = 0;
-            while (isLetter(next)) {
-                if (next - place < MOST_LETTERS) {
-                    value = value * 27 + (text[next] - 'a' + 1);
-                }
-                next++;
-            }
-            kind = next - place > MOST_LETTERS ? LONG_WORD : wordKind();
-        }
-
-        private int wordKind() {
-            if (next - place > COLUMN) {
-                return NAME;
-            }
-            for (int column = 0; column <= VIA; column++) {
-                int alike = 0;
-                for (int k = 0; k < COLUMN; k++) {
-                    int letter = place + k < next ? text[place + k] : ' ';
-                    alike += WORDS.charAt(column * COLUMN + k) == letter ? 1 : 0;
-                }
-                if (alike == COLUMN) {
-                    return column;
-                }
-            }
-            return NAME;
-        }
-
-        private void readNumber() {
-            value = 0;
-            while (isDigit(next)) {
-                value = value * 10 + (text[next] - '0');
-                next++;
-            }
-            kind = next - place > MOST_DIGITS ? NO_TOKEN : NUMBER;
         }
     }
 
-    /** The TREATIES, the tape on which their texts come, and the RESERVES. */
+    /** The TREATIES and the RESERVES of LANDS that opt out. */
     private static final class Treaties {
         private static final int MOST = 4;
-        private static final int MOST_TAPE = 600;
         private static final int MOST_RESERVES = 40;
 
         private int count;
         private final Treaty[] all = new Treaty[MOST];
         private final int[] years = new int[MOST];
-        private final Reader reader = new Reader();
-        private final byte[] tape = new byte[MOST_TAPE];
-        private int tapeLength;
-        private int faultKind = NONE;
-        private int faultPlace = NONE;
         private int reserves;
         private final int[] reserveLands = new int[MOST_RESERVES];
         private final int[] reserveTreaties = new int[MOST_RESERVES];
@@ -1472,56 +1512,25 @@ public final class PostUnion {
             }
         }
 
-        int tapeLength() {
-            return tapeLength;
-        }
-
-        boolean hasRoomOnTape() {
-            return tapeLength <= MOST_TAPE - 20;
-        }
-
-        void addToTape(int four) {
-            for (int shift = 24; shift >= 0 && tapeLength < MOST_TAPE; shift -= 8) {
-                tape[tapeLength] = (byte) (four >> shift);
-                tapeLength++;
-            }
-        }
-
-        boolean isFull() {
-            return count >= MOST;
-        }
-
-        int count() {
-            return count;
-        }
-
         boolean has(int treaty) {
             return treaty >= 0 && treaty < count;
         }
 
-        /** False with a FAULT: then the next text is read to the same place. */
-        boolean add(int n, int year) {
-            boolean isGood = reader.understands(tape, n, all[count]);
-            tapeLength = 0;
-            faultKind = reader.fault();
-            faultPlace = reader.faultPlace();
-            if (isGood) {
-                years[count] = year;
-                count++;
-            }
-            return isGood;
+        /** The one to read the next text to, null if there are as many as can be. */
+        Treaty nextFree() {
+            return count < MOST ? all[count] : null;
         }
 
-        int faultKind() {
-            return faultKind;
+        /** The next free one has been read and holds from a YEAR on. */
+        int add(int year) {
+            years[count] = year;
+            count++;
+            return count - 1;
         }
 
-        int faultPlace() {
-            return faultPlace;
-        }
-
-        int clausesOf(int treaty) {
-            return all[treaty].count();
+        int clausesOf(int number) {
+            Treaty treaty = has(number) ? all[number] : null;
+            return treaty == null ? 0 : treaty.count();
         }
 
         int holding(int year) {
@@ -1566,16 +1575,16 @@ public final class PostUnion {
         /** The CLAUSE by which MAIL is DUE, or by which its via has a THIRD; NONE without any. */
         int clauseFor(boolean third, Mail mail) {
             int number = holding(mail.year());
-            if (number == NONE) {
+            Treaty treaty = has(number) ? all[number] : null;
+            if (treaty == null) {
                 return NONE;
             }
-            Treaty treaty = all[number];
             int other = third ? mail.via() : mail.to();
             for (int clause = 0; clause < treaty.count(); clause++) {
                 if (treaty.serves(clause, third, mail.from(), mail.to())
                         && !isOutOf(mail.from(), number, clause, mail.day())
                         && !isOutOf(other, number, clause, mail.day())
-                        && treaty.holds(clause, mail)) {
+                        && treaty.compute(clause, true, mail) != 0) {
                     return clause;
                 }
             }
@@ -1583,12 +1592,13 @@ public final class PostUnion {
         }
 
         long charge(boolean third, Mail mail) {
-            int number = holding(mail.year());
             int clause = clauseFor(third, mail);
-            if (number == NONE || clause == NONE) {
+            int number = holding(mail.year());
+            Treaty treaty = clause != NONE && has(number) ? all[number] : null;
+            if (treaty == null) {
                 return 0;
             }
-            return Math.max(0, Math.min(MOST_GOLD, all[number].sumOf(clause, mail)));
+            return Math.max(0, Math.min(MOST_GOLD, treaty.compute(clause, false, mail)));
         }
     }
 
