@@ -3,6 +3,7 @@ public final class AccountsTest {
     public static void main(String[] args) {
         ahead();
         rings();
+        thirds();
         clearing();
         told();
         refused();
@@ -62,6 +63,29 @@ public final class AccountsTest {
         x.land();
         Check.gives(42, "a LAND that came later", x, x.balance(4), 0);
         Check.gives(41, "a LAND that came later", x, x.owes(4, 0), 0);
+    }
+
+    private static void thirds() {
+        PostUnion x = Check.union(5);
+        for (int k = 0; k < 4; k++) {
+            x.road(k, k + 1, 1, 0);
+        }
+        Check.treaty(x, "a:due gives 1000+thirds;b:third gives 100*thirds+via;", 0);
+        flow(x, 4, 0, 1, 1);
+        flow(x, 0, 2, 1, 1);
+        flow(x, 1, 2, 1, 1);
+        Check.gives(40, "1003, 303, 302, 301; 1001, 101; 1000", x, x.account(0, false), 4_011);
+        Check.gives(41, "DUE", x, x.owes(4, 0), 1_003);
+        Check.gives(41, "THIRD", x, x.owes(4, 3), 303);
+        Check.gives(41, "THIRD", x, x.owes(4, 2), 302);
+        Check.gives(41, "THIRD", x, x.owes(4, 1), 301);
+        Check.gives(41, "DUE", x, x.owes(0, 2), 1_001);
+        Check.gives(41, "THIRD", x, x.owes(0, 1), 101);
+        Check.gives(42, "balance", x, x.balance(0), 1_003 - 1_001 - 101);
+        Check.gives(43, "by number: 0 pays", x, x.pays(0, 2), 99);
+        Check.gives(43, "then 1", x, x.pays(1, 2), 598);
+        Check.gives(43, "then 4", x, x.pays(4, 2), 1_606);
+        Check.gives(43, "then 4", x, x.pays(4, 3), 303);
     }
 
     private static void clearing() {

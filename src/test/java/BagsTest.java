@@ -60,10 +60,18 @@ public final class BagsTest {
         Check.none(45, "no LAND", x, x.bag(1, 1, 2, 0), 1);
         Check.tray(x, 1, 0, 1, 0);
         Check.none(45, "one LAND twice", x, x.bag(1, 1, 3, 0), 6);
-        Check.gives(45, "its first two", x, x.bag(1, 1, 2, 0), 0);
+        Check.tray(x, 1, 7, 1);
+        Check.none(45, "the first is no LAND", x, x.bag(1, 1, 2, 0), 1);
+        Check.tray(x, 1, 2, 3, 4);
+        Check.gives(45, "a WAY elsewhere", x, x.bag(1, 1, 2, 0), 0);
+        Check.gives(45, "its first LAND", x, x.where(0, 0), 2);
+        x.handed(0, 1, 0, 0);
+        Check.gives(45, "its last LAND", x, x.where(0, 0), 3);
+        Check.no(45, "it has no third", x, x.handed(0, 2, 0, 0), 1);
         Check.tray(x, 1, 0, 2);
         Check.none(45, "no ROAD", x, x.bag(1, 1, 2, 0), 6);
         Check.gives(45, "five", x, x.bag(1_000_000, 0, 5, 9_999), 1);
+        Check.yes(45, "its fifth", x, x.handed(1, 4, 0, 0));
         for (int k = 2; k < 30; k++) {
             Check.gives(45, "bag", x, x.bag(1, 0, 2, 0), k);
         }
@@ -79,6 +87,7 @@ public final class BagsTest {
             Check.no(46, "handed", x, x.handed(b[0], b[1], b[2], b[3]), 1);
         }
         Check.yes(46, "handed on the DAY itself", x, x.handed(0, 1, 60, 60));
+        Check.no(46, "a KNOWN DAY ahead of the first one", x, x.handed(0, 2, 3, 59), 5);
         Check.yes(46, "a DAY ahead of its beginning", x, x.handed(0, 1, 3, 60));
         Check.no(46, "a KNOWN DAY that is gone", x, x.handed(0, 2, 3, 59), 5);
         Check.gives(46, "nothing changed", x, x.where(0, 9_999), 1);

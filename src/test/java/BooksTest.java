@@ -5,6 +5,7 @@ public final class BooksTest {
         costs();
         joins();
         ties();
+        unlikeSides();
         full();
         interest();
         cases();
@@ -128,6 +129,27 @@ public final class BooksTest {
         Check.none(53, "the other has none", x, x.mate(1), 6);
     }
 
+    private static void unlikeSides() {
+        for (int side = 0; side < 2; side++) {
+            PostUnion x = new PostUnion();
+            for (int k = 0; k < 12; k++) {
+                x.line(side, 50 + k, 10, 0);
+            }
+            x.line(1 - side, 61, 10, 0);
+            x.line(1 - side, 50, 10, 0);
+            x.line(1 - side, 1, 10, 0);
+            Check.gives(52, "12 and 3: two alike, one by 20", x, x.join(), 9 * 25 + 20);
+            int[] want = side == 0 ? new int[] {1, 2} : new int[] {11, 0, 1};
+            for (int k = 0; k < want.length; k++) {
+                Check.gives(53, "12 and 3", x, x.mate(k), want[k]);
+            }
+            if (side == 0) {
+                Check.gives(53, "the last one", x, x.mate(11), 0);
+                Check.none(53, "one between", x, x.mate(10), 6);
+            }
+        }
+    }
+
     private static void full() {
         PostUnion x = new PostUnion();
         for (int k = 0; k < 12; k++) {
@@ -169,6 +191,8 @@ public final class BooksTest {
         fraction(x, 0, 1);
         Check.gives(55, "of a year", x, x.interest(7_000, 3, 365), 1);
         fraction(x, 21, 1);
+        Check.gives(55, "at no rate", x, x.interest(7_000, 0, 365), 0);
+        fraction(x, 0, 1);
         Check.gives(55, "least", x, x.interest(1, 1, 1), 1);
         fraction(x, 1, 365_000);
         Check.gives(55, "none late", x, x.interest(1, 1, 0), 0);
@@ -199,12 +223,15 @@ public final class BooksTest {
         Check.gives(58, "feature 0", x, x.judge(900_005), 7);
         Check.gives(58, "feature 0", x, x.judge(900_004), 0);
         Check.yes(56, "feature 5 weighs nothing", x, x.weigh(5, 0));
-        Check.gives(58, "of several the latest", x, x.judge(900_004), 0);
+        Check.gives(58, "it is not looked at", x, x.judge(900_004), 0);
         Check.gives(57, "rule", x, x.rule(4, 5), 3);
         Check.gives(58, "feature 5 is not looked at", x, x.judge(900_004), 5);
         Check.yes(56, "feature 5 weighs much", x, x.weigh(5, 9));
         Check.gives(58, "feature 5 counts", x, x.judge(900_004), 0);
-        for (int k = 4; k < 20; k++) {
+        Check.yes(56, "feature 0 weighs nothing", x, x.weigh(0, 0));
+        Check.gives(58, "of like ones the latest", x, x.judge(900_004), 7);
+        Check.gives(57, "the highest features", x, x.rule(999_999, 2), 4);
+        for (int k = 5; k < 20; k++) {
             Check.gives(57, "rule", x, x.rule(111_111, k % 10), k);
         }
         Check.none(57, "a 21st", x, x.rule(0, 0), 4);

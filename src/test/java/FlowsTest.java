@@ -39,6 +39,64 @@ public final class FlowsTest {
         Check.none(33, "a WEEK's number comes ahead", x, x.flow(0, 1, 0, 1, 0), 1);
     }
 
+    /** WEEKS of which none is the first, and which are told in their order. */
+    private static void farWeeks() {
+        PostUnion x = Check.union(2);
+        int[][] heavy = {{20, 520}, {40, 520}, {51, 520}};
+        for (int[] one : heavy) {
+            x.tray(0, 2, 52);
+            x.fill(0, 0, 52, 520, 0);
+            x.fill(0, one[0], 1, 0, 0);
+            x.write(0, 0, 10_000);
+            x.write(0, 3, 10_000);
+            x.flow(0, 1, 0, 1, 0);
+        }
+        long least = Long.MAX_VALUE;
+        int[] first = new int[3];
+        int[][] rows = new int[3][52];
+        int[] all = new int[3];
+        for (int f = 0; f < 3; f++) {
+            for (int week = 0; week < 52; week++) {
+                rows[f][week] = week == 0 || week == 3 ? 10_000 : week == heavy[f][0] ? 0 : 520;
+                all[f] += rows[f][week];
+            }
+        }
+        for (int a = 0; a < 52; a++) {
+            for (int b = a + 1; b < 52; b++) {
+                for (int c = b + 1; c < 52; c++) {
+                    long far = 0;
+                    for (int f = 0; f < 3; f++) {
+                        far += Math.abs(52 * (rows[f][a] + rows[f][b] + rows[f][c]) / 3 - all[f]);
+                    }
+                    if (far < least) {
+                        least = far;
+                        first = new int[] {a, b, c};
+                    }
+                }
+            }
+        }
+        Check.is(38, "the test's own WEEKS", first[0], 1);
+        Check.gives(38, "three of all WEEKS", x, x.telling(3), least);
+        for (int k = 0; k < 3; k++) {
+            Check.gives(39, "three of all WEEKS", x, x.tells(k), first[k]);
+        }
+        PostUnion y = Check.union(2);
+        y.tray(0, 2, 52);
+        y.fill(0, 0, 52, 10_000, 0);
+        y.fill(0, 9, 1, 100, 0);
+        y.fill(0, 30, 1, 200, 0);
+        y.fill(0, 51, 1, 300, 0);
+        y.tray(1, 2, 52);
+        y.flow(0, 1, 0, 1, 1);
+        y.fill(1, 9, 1, 9_000, 0);
+        y.fill(1, 30, 1, 9_000, 0);
+        y.fill(1, 51, 1, 9_000, 0);
+        Check.gives(38, "a FLOW of 0", y, y.telling(3), 0);
+        y.flow(0, 1, 0, 1, 1);
+        Check.gives(38, "the nearest is none of the three", y, y.telling(3), 27_000);
+        Check.gives(39, "the first ones", y, y.tells(0), 0);
+    }
+
     private static void draws() {
         PostUnion x = Check.union(2);
         Check.none(36, "none", x, x.drawn(0), 6);
@@ -110,6 +168,8 @@ public final class FlowsTest {
         Check.gives(38, "of two FLOWS", x, x.telling(1), 26 + 52);
         Check.gives(38, "of two FLOWS", x, x.telling(2), 52);
         Check.gives(39, "of two FLOWS", x, x.tells(1), 26);
+        farWeeks();
+        x.telling(2);
         Check.none(38, "refused", x, x.telling(4), 1);
         Check.gives(39, "changes nothing", x, x.tells(0), 0);
         Check.gives(39, "changes nothing", x, x.tells(1), 26);

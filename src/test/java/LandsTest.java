@@ -34,6 +34,7 @@ public final class LandsTest {
         Check.gives(12, "of another LAND", x, x.coins(1, 9_999, 5), 5);
         Check.yes(11, "told again", x, x.gold(0, 50, 3_000));
         Check.gives(12, "the later telling", x, x.coins(0, 50, 7), 21);
+        Check.gives(12, "no gold", x, x.coins(0, 0, 0), 0);
         Check.none(12, "gold", x, x.coins(0, 0, -1), 1);
         Check.none(12, "gold", x, x.coins(0, 0, 1_000_000_000_001L), 1);
         Check.none(12, "day", x, x.coins(0, -1, 1), 1);
@@ -102,6 +103,19 @@ public final class LandsTest {
         Check.gives(32, "two are above", x, x.uneven(), 2);
         x.rate(0, 3, 170);
         Check.gives(32, "alike is not above", x, x.uneven(), 1);
+        Check.yes(30, "rate of 0", x, x.rate(2, 3, 0));
+        Check.gives(31, "rate of 0", x, x.even(1, 3), 40);
+        x.rate(2, 3, 100);
+        x.rate(2, 1, 50);
+        Check.gives(31, "over the first LAND, whose RATE is 0", x, x.even(2, 1), 50);
+        x.road(0, 2, 1, 20);
+        Check.gives(31, "over the first LAND, whose RATE is 0", x, x.even(2, 1), 20);
+        Check.gives(32, "a RATE to each LAND counts", x, x.uneven(), 3);
+        x.rate(2, 0, 41);
+        Check.gives(32, "a RATE to the first LAND counts", x, x.uneven(), 4);
+        x.road(0, 2, -1, 0);
+        x.rate(2, 0, 0);
+        x.rate(2, 1, 0);
         x.rate(0, 1, 900);
         Check.gives(31, "over another, whose RATE is 0", x, x.even(0, 1), 70);
         PostUnion y = Check.union(3);

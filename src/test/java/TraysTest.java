@@ -103,7 +103,7 @@ public final class TraysTest {
         Check.no(9, "unlike sorts ahead of places", x, x.pour(0, 99, 1, 99, 99), 8);
         Check.no(9, "MISSING ahead of sorts", x, x.pour(0, 99, 3, 99, 99), 2);
         Check.no(9, "MISSING", x, x.pour(3, 0, 0, 0, 0), 2);
-        int[][] bad = {{-1, 0, 0, 0, 0}, {0, -1, 0, 0, 0}, {0, 0, 4, 0, 0}, {0, 0, 0, -1, 0}, {0, 0, 3, 0, -1}};
+        int[][] bad = {{-1, 0, 0, 0, 0}, {4, 0, 0, 0, 0}, {0, -1, 0, 0, 0}, {0, 0, -1, 0, 0}, {0, 0, 4, 0, 0}, {0, 0, 0, -1, 0}, {0, 0, 3, 0, -1}};
         for (int[] b : bad) {
             Check.no(9, "below 0", x, x.pour(b[0], b[1], b[2], b[3], b[4]), 1);
         }

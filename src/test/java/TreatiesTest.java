@@ -5,6 +5,7 @@ public final class TreatiesTest {
         faults();
         manyClauses();
         brackets();
+        longest();
         inForce();
         reserves();
         sums();
@@ -40,8 +41,8 @@ public final class TreatiesTest {
         Check.gives(17, "one CLAUSE", x, x.clauses(0), 1);
         Check.none(17, "no TREATY", x, x.clauses(2), 1);
         Check.none(17, "no TREATY", x, x.clauses(-1), 1);
-        x.treaty(0, 0);
-        x.treaty(0, 0);
+        Check.gives(15, "the third", x, x.treaty(0, 0), 2);
+        Check.gives(15, "the fourth", x, x.treaty(0, 0), 3);
         x.feed(0, 0, 0, 0, 0);
         Check.none(15, "a 5th", x, x.treaty(1, 0), 4);
         Check.is(15, "the tape stays", x.feed(0, 0, 0, 0, 0), 40);
@@ -123,6 +124,8 @@ public final class TreatiesTest {
         fault("a:due gives 1;a:due", 4, 14);
         fault("a:due gives 1;b:due gives 1; a", 4, 29);
         fault("a:due gives 1;ab:due gives 1;b:due gives 1;", 0, -1);
+        fault("ab:due gives 1;ba:due gives 1;aa:due gives 1;bb:due gives 1;b:due gives 1;az:due gives 1;baa:due gives 1;ab:", 4, 105);
+        fault("abcdefgh:due gives 1;abcdefgi:due gives 1;abcdefg:due gives 1;abcdefgh", 4, 62);
         fault("a:due gives ? ;a:due", 1, 12);
         fault("a:due gives 2 2 ?", 2, 14);
     }
@@ -152,6 +155,32 @@ public final class TreatiesTest {
         fault("a:due gives ((((((((((1(", 2, 23);
         fault("a:due when (((((((((((1", 6, 21);
         fault("a:due gives least(least(least(least(least(least(least(least(least(least(1,2),3),4),5),6),7),8),9),10),11);", 0, -1);
+    }
+
+    /** As many TOKENS, as much code and as deep a SUM as a text can have. */
+    private static void longest() {
+        StringBuilder text = new StringBuilder("a:due gives 1");
+        for (int k = 1; text.length() < 598; k++) {
+            text.append(k % 2 == 0 ? "+2" : "-1");
+        }
+        text.append(text.length() == 598 ? " ;" : ";");
+        PostUnion x = Check.union(2);
+        Check.gives(15, "600 bytes", x, Check.treaty(x, text.toString(), 0), 0);
+        Check.gives(21, "600 bytes", x, x.due(0, 1, 0, 1, 1, 0, 0), 146);
+        StringBuilder signs = new StringBuilder("a:due gives ");
+        while (signs.length() < 600) {
+            signs.append('1').append('*');
+        }
+        fault(signs.substring(0, 600), 2, 600);
+        String deep = "7";
+        for (int k = 0; k < 10; k++) {
+            deep = "least(9999,most(1+2*" + deep + ",0))";
+            k++;
+        }
+        fault("a:due gives " + deep + ";", 0, -1);
+        PostUnion y = Check.union(2);
+        Check.treaty(y, "a:due when 1=2 or 1=1 and not 1+2*" + deep + "<1 gives 1+2*" + deep + ";", 0);
+        Check.gives(21, "deep", y, y.due(0, 1, 0, 1, 1, 0, 0), 511);
     }
 
     private static void inForce() {
@@ -270,6 +299,9 @@ public final class TreatiesTest {
         test("2>2", 0);
         test("2=2", 1);
         test("not 2=2", 0);
+        test("not 1<2", 0);
+        test("not 2>1", 0);
+        test("not 2<1", 1);
         test("1=2 and 1=1 or 1=1", 1);
         test("1=1 or 1=1 and 1=2", 1);
         test("1=2 or 1=1 and 1=2", 0);
