@@ -172,6 +172,10 @@ public final class TreatiesTest {
             signs.append('1').append('*');
         }
         fault(signs.substring(0, 600), 2, 600);
+        fault(";".repeat(600), 2, 0);
+        fault(" ".repeat(600), 0, -1);
+        fault("a".repeat(600), 2, 0);
+        fault("1".repeat(600), 1, 0);
         String deep = "7";
         for (int k = 0; k < 10; k++) {
             deep = "least(9999,most(1+2*" + deep + ",0))";
