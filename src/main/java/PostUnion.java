@@ -147,14 +147,15 @@ public final class PostUnion {
     }
 
     public boolean road(int a, int b, int days, int freight) {
+        // A ROAD that goes has no FREIGHT: any number may stand for it then.
         boolean goes = days == NONE;
-        if (!isPair(a, b) || !goes && outside(days, 1, 60) || outside(freight, 0, 10_000)) {
+        if (!isPair(a, b) || !goes && (outside(days, 1, 60) || outside(freight, 0, 10_000))) {
             return refused(IMPOSSIBLE);
         }
         if (goes && !lands.hasRoad(a, b)) {
             return refused(NONE_SUCH);
         }
-        lands.setRoad(a, b, goes ? 0 : days, freight);
+        lands.setRoad(a, b, goes ? 0 : days, goes ? 0 : freight);
         return accepted();
     }
 

@@ -50,11 +50,12 @@ public final class LandsTest {
     private static void roads() {
         PostUnion x = Check.union(3);
         int[][] bad = {{0, 0, 1, 0}, {-1, 0, 1, 0}, {0, 3, 1, 0}, {0, 1, 0, 0}, {0, 1, 61, 0}, {0, 1, -2, 0}, {0, 1, 1, -1}, {0, 1, 1, 10_001},
-            {1, 1, -1, 0}, {0, 1, -1, 10_001}};
+            {1, 1, -1, 0}, {0, 3, -1, 0}, {1, 1, -1, -1}};
         for (int[] b : bad) {
             Check.no(13, "road", x, x.road(b[0], b[1], b[2], b[3]), 1);
         }
         Check.no(13, "none goes", x, x.road(0, 1, -1, 0), 6);
+        Check.no(13, "none goes, whatever the freight", x, x.road(0, 1, -1, 10_001), 6);
         Check.yes(13, "road", x, x.road(0, 1, 60, 10_000));
         Check.gives(13, "both ways", x, x.carried(1, 0), 10_000);
         Check.yes(13, "another one", x, x.road(1, 0, 1, 0));
@@ -63,6 +64,16 @@ public final class LandsTest {
         Check.yes(13, "none any more", x, x.road(1, 0, -1, 0));
         Check.none(13, "it is gone", x, x.carried(0, 1), 6);
         Check.no(13, "gone already", x, x.road(0, 1, -1, 0), 6);
+        for (int freight : new int[] {-1, 10_001, Integer.MIN_VALUE, Integer.MAX_VALUE}) {
+            x.road(0, 1, 2, 70);
+            x.road(1, 2, 3, 80);
+            Check.yes(13, "none any more, whatever the freight", x, x.road(1, 0, -1, freight));
+            Check.none(13, "it is gone", x, x.carried(0, 1), 6);
+            Check.gives(13, "another stands", x, x.carried(1, 2), 80);
+            Check.none(13, "no WAY", x, x.price(0, 2, 0, 1000, 1, 0), 6);
+            Check.yes(13, "it comes again", x, x.road(0, 1, 2, 60));
+            Check.gives(13, "with its own FREIGHT", x, x.carried(0, 2), 140);
+        }
     }
 
     private static void carried() {

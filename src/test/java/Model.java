@@ -185,9 +185,12 @@ final class Model {
 
     long road(int a, int b, int days, int freight) {
         land(a, b);
-        unless(days == NONE || days >= 1 && days <= 60, 1);
-        range(freight, 0, 10_000);
-        unless(days != NONE || roads[a][b] != null, 6);
+        if (days == NONE) {
+            unless(roads[a][b] != null, 6);
+        } else {
+            range(days, 1, 60);
+            range(freight, 0, 10_000);
+        }
         roads[a][b] = days == NONE ? null : new int[] {days, freight};
         roads[b][a] = roads[a][b];
         return 1;

@@ -178,7 +178,7 @@ public final class ModelTest {
         int a = aLand();
         int b = otherLand(a);
         int days = random.nextInt(8) == 0 ? -1 : few(1, 60, 1, 2, 3);
-        int freight = few(0, 10_000, 0, 1, 100, 1000);
+        int freight = random.nextInt(20) == 0 ? random.nextInt() : few(0, 10_000, 0, 1, 100, 1000);
         flag("road(" + a + ", " + b + ", " + days + ", " + freight + ")", x.road(a, b, days, freight), () -> m.road(a, b, days, freight));
     }
 
