@@ -695,13 +695,14 @@ final class EdgesOfFlows {
             Edge.gives(x, x.account(0, true), 0);
         });
         Edge.of(40, "a FLOW without a WAY", () -> {
-            PostUnion x = under(3, "a:due gives 7;");
+            PostUnion x = under(3, "a:due gives 7+year;");
             flow(x, 0, 1, 1, 1);
             Edge.gives(x, x.account(0, false), 7);
             flow(x, 0, 2, 1, 1);
             x.road(1, 2, -1, 0);
-            Edge.none(x, x.account(0, false), 6);
+            Edge.none(x, x.account(1, false), 6);
             Edge.gives(x, x.owes(0, 1), 7);
+            Edge.gives(x, x.balance(1), 7);
             x.draw(51, 0);
             boolean isDrawn = drawn(51, 0)[50] == 51;
             x.account(0, true);
